@@ -8,6 +8,10 @@ public final class RowFinder {
     private static final int MOST_HAPPENINGS = 30;
     private static final int MOST_ITEMS = 4;
     private static final int MOST_FOUND = 2000;
+    /** 30 HAPPENINGS, of which 4 are chosen. */
+    private static final int MOST_MATCHES = 27405;
+    /** Far more than the choices of up to 4 of 30 HAPPENINGS. */
+    private static final int MOST_STEPS = 1000000;
     private static final int LAST_TICK = 9999;
     private static final int FIRST_GAP = 100;
     private static final int FIRST_SPAN = 1000;
@@ -147,7 +151,7 @@ public final class RowFinder {
                 gatherRowsBehind(begin, heap0 | heap1);
                 gathered = begin;
             }
-            int apart = apart(rowsBehind[Patterns.lastItem(pattern)], heap0, heap1);
+            int apart = howFarApart(rowsBehind[Patterns.lastItem(pattern)], heap0, heap1);
             if (apart > widest) {
                 widest = apart;
                 best = i;
@@ -250,7 +254,7 @@ public final class RowFinder {
         return r >= 0 && r < rowCount;
     }
 
-    private int lookAtRow(Row row, int what) {
+    private static int lookAtRow(Row row, int what) {
         switch (what) {
             case 0: return row.heap;
             case 1: return row.in ? 1 : 0;
@@ -349,7 +353,7 @@ public final class RowFinder {
         return false;
     }
 
-    private static int apart(int some, int heap0, int heap1) {
+    private static int howFarApart(int some, int heap0, int heap1) {
         int with0 = Integer.bitCount(some & heap0);
         int with1 = Integer.bitCount(some & heap1);
         return Math.abs(with0 * Integer.bitCount(heap1) - with1 * Integer.bitCount(heap0));
@@ -648,46 +652,48 @@ public final class RowFinder {
         }
 
         long matchesIn(Row row) {
-            return matchesOn(row, 0);
-        }
-
-        /** How many MATCHES go on from the PLACES that the first k ITEMS have. */
-        private long matchesOn(Row row, int k) {
-            if (k >= length) {
-                return 1;
+            long many = 0;
+            boolean another = goToFirstMatch(row);
+            while (another && many < MOST_MATCHES) {
+                many++;
+                another = goToNextMatch(row, length - 1);
             }
-            long sum = 0;
-            for (int place = firstPlaceFor(k); place < row.size(); place++) {
-                if (canStandAt(row, place, k)) {
-                    places[k] = place;
-                    sum += matchesOn(row, k + 1);
-                }
-            }
-            return sum;
+            return many;
         }
 
         int placeInFirst(Row row, int i) {
-            return i >= 0 && i < length && completes(row, 0) ? places[i] : NONE;
+            return i >= 0 && i < length && goToFirstMatch(row) ? places[i] : NONE;
         }
 
-        /** Finds the least PLACES for the ITEMS from k on; false if there are none. */
-        private boolean completes(Row row, int k) {
-            if (k >= length) {
-                return true;
-            }
-            for (int place = firstPlaceFor(k); place < row.size(); place++) {
-                if (canStandAt(row, place, k)) {
-                    places[k] = place;
-                    if (completes(row, k + 1)) {
-                        return true;
-                    }
+        private boolean goToFirstMatch(Row row) {
+            places[0] = NONE;
+            return goToNextMatch(row, 0);
+        }
+
+        /** Moves the ITEM from its PLACE, and others as need be, to the least MATCH behind; false if there is none. */
+        private boolean goToNextMatch(Row row, int from) {
+            int k = from;
+            for (int step = 0; step < MOST_STEPS && k >= 0; step++) {
+                places[k] = nextPlace(row, k);
+                if (places[k] == NONE) {
+                    k--;
+                } else if (k >= length - 1) {
+                    return true;
+                } else {
+                    places[k + 1] = places[k];
+                    k++;
                 }
             }
             return false;
         }
 
-        private int firstPlaceFor(int k) {
-            return k == 0 ? 0 : places[k - 1] + 1;
+        private int nextPlace(Row row, int k) {
+            for (int place = places[k] + 1; place < row.size(); place++) {
+                if (canStandAt(row, place, k)) {
+                    return place;
+                }
+            }
+            return NONE;
         }
 
         private boolean canStandAt(Row row, int place, int k) {

@@ -662,10 +662,12 @@ public final class RowFinderModel {
             new Run(seed).go();
         }
         fullRun(1001, 16, 10, 1, 4);
-        fullRun(1002, 16, 10, 10, 3);
+        fullRun(1002, 16, 10, 6, 3);
         fullRun(1003, 16, 60, 4, 4);
-        fullRun(1004, 12, 10, 14, 4);
-        fullRun(1005, 4, 10, 24, 4);
+        fullRun(1004, 12, 10, 8, 4);
+        fullRun(1005, 9, 10, 8, 4);
+        fullRun(1006, 8, 10, 6, 4);
+        fullRun(1007, 5, 10, 18, 4);
         System.out.println(wrong == 0 ? "all of " + calls + " answers are as due" : wrong + " answers are not as due");
         if (wrong != 0) {
             System.exit(1);
