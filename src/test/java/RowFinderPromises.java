@@ -112,6 +112,7 @@ public final class RowFinderPromises {
         due("a 25th", x.row(0), NONE);
         due("24 are there", x.tell(0), 24);
         due("all are IN", x.tell(1), 24);
+        due("all are empty", x.tell(5), 0);
     }
 
     private static void put() {
