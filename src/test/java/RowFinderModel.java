@@ -1,4 +1,5 @@
 import java.util.ArrayList;
+import java.util.Collections;
 import java.util.HashMap;
 import java.util.List;
 import java.util.Map;
@@ -10,6 +11,8 @@ import java.util.Random;
  */
 public final class RowFinderModel {
     private static final int NONE = -1;
+    /** The document promises nothing of what later calls answer. */
+    private static final int MOST_CALLS = 512;
     private static int wrong = 0;
     private static long calls = 0;
 
@@ -441,6 +444,7 @@ public final class RowFinderModel {
         final RowFinder x = new RowFinder();
         final Model y = new Model();
         final StringBuilder told = new StringBuilder();
+        int asked = 0;
 
         Run(int seed) {
             this.seed = seed;
@@ -497,6 +501,11 @@ public final class RowFinderModel {
 
         void due(String call, long got, long want) {
             calls++;
+            asked++;
+            if (asked == MOST_CALLS + 1) {
+                wrong++;
+                System.out.println("run " + seed + " itself asks more than " + MOST_CALLS + " calls");
+            }
             told.append(call).append(" -> ").append(want).append('\n');
             if (got != want) {
                 wrong++;
@@ -604,30 +613,55 @@ public final class RowFinderModel {
             }
         }
 
-        /** All that can be seen at the end, whatever was refused on the way. */
+        /** As much as there are calls left for of all that can be seen at the end, whatever was refused before. */
         void sweep() {
-            for (int what = -1; what < 8; what++) {
-                due("tell(" + what + ")", x.tell(what), y.tell(what));
+            List<Runnable> all = new ArrayList<>();
+            sweepRows(all);
+            sweepFound(all);
+            sweepKinds(all);
+            Collections.shuffle(all, dice);
+            for (int i = 0; i < all.size() && asked < MOST_CALLS; i++) {
+                all.get(i).run();
             }
-            for (int r = 0; r < y.rows.size(); r++) {
-                for (int i = -2; i < 31; i++) {
-                    for (int what = -1; what < 4; what++) {
-                        due("look(" + r + ", " + i + ", " + what + ")", x.look(r, i, what), y.look(r, i, what));
+        }
+
+        void sweepRows(List<Runnable> all) {
+            for (int w = -1; w < 8; w++) {
+                int what = w;
+                all.add(() -> due("tell(" + what + ")", x.tell(what), y.tell(what)));
+            }
+            for (int row = 0; row < y.rows.size(); row++) {
+                int r = row;
+                for (int at = -1; at <= y.rows.get(r).happenings.size(); at++) {
+                    int i = at;
+                    for (int w = 0; w < 3; w++) {
+                        int what = w;
+                        all.add(() -> due("look(" + r + ", " + i + ", " + what + ")", x.look(r, i, what),
+                            y.look(r, i, what)));
                     }
                 }
             }
-            for (int i = -1; i <= y.found.size(); i++) {
-                for (int k = -1; k < 7; k++) {
-                    due("found(" + i + ", " + k + ")", x.found(i, k), y.found(i, k));
+        }
+
+        void sweepFound(List<Runnable> all) {
+            int step = 1 + y.found.size() / 100;
+            for (int at = -1; at <= y.found.size(); at += step) {
+                int i = Math.min(y.found.size(), at + dice.nextInt(step));
+                for (int item = 0; item < 6; item++) {
+                    int k = item;
+                    all.add(() -> due("found(" + i + ", " + k + ")", x.found(i, k), y.found(i, k)));
                 }
+                all.add(() -> due("closed(" + i + ")", x.closed(i), y.closed(i)));
             }
-            for (int i = 0; i < y.found.size(); i += 1 + y.found.size() / 40) {
-                due("closed(" + i + ")", x.closed(i), y.closed(i));
-            }
-            for (int k = 0; k < 16; k++) {
-                for (int of = 0; of < 16; of++) {
-                    due("isUnder(" + k + ", " + of + ")", x.isUnder(k, of), y.isUnder(k, of));
-                    due("expected(" + k + ", " + of + ")", x.expected(k, of), y.expected(k, of));
+        }
+
+        void sweepKinds(List<Runnable> all) {
+            for (int kind = 0; kind < 16; kind++) {
+                int k = kind;
+                for (int over = 0; over < 16; over++) {
+                    int of = over;
+                    all.add(() -> due("isUnder(" + k + ", " + of + ")", x.isUnder(k, of), y.isUnder(k, of)));
+                    all.add(() -> due("expected(" + k + ", " + of + ")", x.expected(k, of), y.expected(k, of)));
                 }
             }
         }
@@ -639,7 +673,7 @@ public final class RowFinderModel {
         for (int r = 0; r < 24; r++) {
             int heap = run.dice.nextInt(2);
             run.due("row(" + heap + ")", run.x.row(heap), run.y.row(heap));
-            for (int i = 0; i < 18; i++) {
+            for (int i = 0; i < 15; i++) {
                 int t = i * step;
                 int k = run.dice.nextInt(kinds);
                 run.due("put(" + r + ", " + t + ", " + k + ")", run.x.put(r, t, k), run.y.put(r, t, k));
@@ -647,12 +681,13 @@ public final class RowFinderModel {
         }
         run.due("under(3, 0)", run.x.under(3, 0), run.y.under(3, 0));
         run.due("find(" + m + ", " + n + ")", run.x.find(m, n), run.y.find(m, n));
-        System.out.println("a full run found " + run.x.tell(4));
+        System.out.println("a full run found " + run.y.found.size());
         run.due("best()", run.x.best(), run.y.best());
-        run.sweep();
-        run.due("take(0, false)", run.x.take(0, false), run.y.take(0, false));
-        run.due("gap(30)", run.x.gap(30), run.y.gap(30));
-        run.due("best()", run.x.best(), run.y.best());
+        if (run.dice.nextInt(2) == 0) {
+            run.due("take(0, false)", run.x.take(0, false), run.y.take(0, false));
+            run.due("gap(30)", run.x.gap(30), run.y.gap(30));
+            run.due("best()", run.x.best(), run.y.best());
+        }
         run.sweep();
     }
 
@@ -661,13 +696,12 @@ public final class RowFinderModel {
         for (int seed = 1; seed <= runs && wrong == 0; seed++) {
             new Run(seed).go();
         }
-        fullRun(1001, 16, 10, 1, 4);
-        fullRun(1002, 16, 10, 6, 3);
-        fullRun(1003, 16, 60, 4, 4);
-        fullRun(1004, 12, 10, 8, 4);
-        fullRun(1005, 9, 10, 8, 4);
-        fullRun(1006, 8, 10, 6, 4);
-        fullRun(1007, 5, 10, 18, 4);
+        int[][] full = {{16, 10, 1, 4}, {16, 10, 5, 3}, {16, 60, 4, 4}, {12, 10, 6, 4}, {9, 10, 7, 4}, {8, 10, 5, 4},
+            {5, 10, 15, 4}};
+        for (int seed = 1001; seed < 1043 && wrong == 0; seed++) {
+            int[] told = full[seed % full.length];
+            fullRun(seed, told[0], told[1], told[2], told[3]);
+        }
         System.out.println(wrong == 0 ? "all of " + calls + " answers are as due" : wrong + " answers are not as due");
         if (wrong != 0) {
             System.exit(1);

@@ -13,9 +13,10 @@ public final class RowFinderRoom {
         return BEAN.getThreadAllocatedBytes(Thread.currentThread().getId());
     }
 
+    /** Each call, many times, but at most 512 in all. */
     private static long allCalls(RowFinder x) {
         long sum = 0;
-        for (int r = 0; r < 24; r++) {
+        for (int r = 0; r < 8; r++) {
             sum += x.row(r % 2);
             for (int i = 0; i < 30; i++) {
                 sum += x.put(r, i * 5, (i * 7 + r * r) % 16);
@@ -23,8 +24,8 @@ public final class RowFinderRoom {
         }
         sum += x.under(3, 2) ? 1 : 0;
         sum += x.find(3, 4) + x.best();
-        for (int i = 0; i < 40; i++) {
-            sum += x.closed(i * 50) + x.found(i, 0) + x.tell(i) + x.look(i, 0, 0) + x.isUnder(i, 2);
+        for (int i = 0; i < 17; i++) {
+            sum += x.closed(i * 115) + x.found(i, 0) + x.tell(i) + x.look(i, 0, 0) + x.isUnder(i, 2);
             sum += x.count(i % 16, 1, 2, 3) + x.matches(0, 1, i % 16, 3, NONE) + x.match(0, 1, 2, 3, 4, 0);
             sum += x.expected(i, 1) + x.share(1, i, 2, NONE) + x.lacking(1, 2, 3, 4, i) + x.sure(i, 1, 2, 3, NONE);
             sum += (x.take(i, false) ? 1 : 0) + (x.gap(i) ? 1 : 0) + (x.span(500 - i) ? 1 : 0);
