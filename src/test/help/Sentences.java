@@ -12,6 +12,8 @@ abstract class Sentences {
     static final int LOW = Integer.MIN_VALUE;
     static final int HIGH = Integer.MAX_VALUE;
     private static final Path DOCUMENT = Path.of("../shared/DOC.md");
+    /** The hashCode of the words for which these tests were written. */
+    private static final int WORDS_THEN = 350174703;
     /** The document promises nothing of what later calls answer, so no test asks for it. */
     private static final int MOST_CALLS = 512;
     private static final int MOST_TOLD = 20;
@@ -28,8 +30,7 @@ abstract class Sentences {
         sentence = words;
         sentences++;
         if (!document().contains(plain(words))) {
-            // No fault of the program: the document may have been put in other words.
-            System.out.println("the document does not say \"" + words + "\"; look whether its test is still due");
+            faultOfTests("the document does not say \"" + words + "\"; look whether its test is still due");
         }
         int before = answers;
         test.run();
@@ -71,14 +72,24 @@ abstract class Sentences {
         }
     }
 
-    private static String plain(String text) {
+    /** Only told if the document has been put in other words since: the program is not at fault then. */
+    static void faultOfTests(String what) {
+        if (document().hashCode() == WORDS_THEN) {
+            fail(what);
+        } else {
+            System.out.println(what);
+        }
+    }
+
+    static String plain(String text) {
         return text.replace("`", "").replaceAll("\\s+", " ");
     }
 
-    private static String document() {
+    /** Its words without what stands around them: headings, and the marks of what is set apart. */
+    static String document() {
         if (document == null) {
             try {
-                document = plain(Files.readString(DOCUMENT));
+                document = plain(Files.readString(DOCUMENT).replaceAll("(?m)^(#|```).*$", ""));
             } catch (IOException e) {
                 document = "";
             }

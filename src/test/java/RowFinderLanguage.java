@@ -1,26 +1,17 @@
 import java.io.IOException;
-import java.lang.reflect.Constructor;
 import java.lang.reflect.Field;
 import java.lang.reflect.Method;
 import java.lang.reflect.Modifier;
 import java.nio.file.Files;
 import java.nio.file.Path;
-import java.util.ArrayList;
-import java.util.List;
 import java.util.Set;
 import java.util.TreeSet;
 import java.util.regex.Matcher;
 import java.util.regex.Pattern;
 
-/** The public face of RowFinder, and those rules of LANGUAGE.md that can be seen in the text or in the classes. */
+/** Those rules of LANGUAGE.md that can be seen in the text or in the classes; RowFinderFace has the public face. */
 public final class RowFinderLanguage {
     private static final String SOURCE = "src/main/java/RowFinder.java";
-    private static final String[] FACE = {
-        "boolean under(int,int)", "int row(int)", "int put(int,int,int)", "boolean take(int,boolean)",
-        "boolean gap(int)", "boolean span(int)", "int count(int,int,int,int)", "long matches(int,int,int,int,int)",
-        "int match(int,int,int,int,int,int)", "int find(int,int)", "int found(int,int)", "int closed(int)",
-        "int best()", "long expected(int,int)", "int share(int,int,int,int)", "int lacking(int,int,int,int,int)",
-        "int sure(int,int,int,int,int)", "int look(int,int,int)", "int isUnder(int,int)", "int tell(int)"};
     private static final String[] FORBIDDEN = {
         "\\bthrow\\b", "\\bthrows\\b", "\\btry\\b", "\\bcatch\\b", "\\bsynchronized\\b", "\\bassert\\b", "\\bimport\\b",
         "\\bpackage\\b", "->", "::", "Exact\\b", "\\bSystem\\b", "\\bRandom\\b", "\\bThread\\b", "\\bprotected\\b",
@@ -34,37 +25,17 @@ public final class RowFinderLanguage {
         }
     }
 
-    private static String told(Method m) {
-        List<String> types = new ArrayList<>();
-        for (Class<?> type : m.getParameterTypes()) {
-            types.add(type.getName());
+    private static void methods() {
+        Set<String> open = new TreeSet<>();
+        for (Method m : RowFinder.class.getMethods()) {
+            open.add(m.getName());
         }
-        return m.getReturnType().getName() + " " + m.getName() + "(" + String.join(",", types) + ")";
-    }
-
-    private static void face() {
-        Set<String> want = new TreeSet<>(List.of(FACE));
-        Set<String> names = new TreeSet<>();
-        Set<String> got = new TreeSet<>();
-        for (Method m : RowFinder.class.getDeclaredMethods()) {
-            if (Modifier.isPublic(m.getModifiers())) {
-                got.add(told(m));
-                names.add(m.getName());
-                say(!Modifier.isStatic(m.getModifiers()), told(m) + " is static");
-            }
-        }
-        say(got.equals(want), "the public methods are " + got);
         for (Method m : RowFinder.class.getDeclaredMethods()) {
             int how = m.getModifiers();
-            say(Modifier.isPublic(how) || Modifier.isPrivate(how), told(m) + " is neither public nor private");
-            say(Modifier.isPublic(how) || !names.contains(m.getName()), told(m) + " has a public method's name");
-            say(m.getParameterCount() <= 7, told(m) + " has more than seven parameters");
+            say(Modifier.isPublic(how) || Modifier.isPrivate(how), m + " is neither public nor private");
+            say(Modifier.isPublic(how) || !open.contains(m.getName()), m + " has a public method's name");
+            say(m.getParameterCount() <= 7, m + " has more than seven parameters");
         }
-        Constructor<?>[] made = RowFinder.class.getDeclaredConstructors();
-        say(made.length == 1 && Modifier.isPublic(made[0].getModifiers()) && made[0].getParameterCount() == 0,
-            "the constructor is not the document's");
-        int how = RowFinder.class.getModifiers();
-        say(Modifier.isPublic(how) && Modifier.isFinal(how), "the class is not public and final");
     }
 
     private static void fields(Class<?> c) {
@@ -115,10 +86,10 @@ public final class RowFinderLanguage {
     }
 
     public static void main(String[] args) throws IOException {
-        face();
+        methods();
         classes();
         text();
-        System.out.println(wrong == 0 ? "the face and the language are as due" : wrong + " things are not as due");
+        System.out.println(wrong == 0 ? "the language is as due" : wrong + " things are not as due");
         if (wrong != 0) {
             System.exit(1);
         }

@@ -804,7 +804,7 @@ public final class RowFinderTerms extends Sentences {
         sentence("COUNT: how many ROWS that are IN have it.", RowFinderTerms::countOfRowsIn);
         sentence("ROWS that are IN", RowFinderTerms::whatIsPutIntoARowThatIsOut);
         sentence("THE FIRST MATCH: the least, PLACE by PLACE.", RowFinderTerms::theFirstMatch);
-        sentence("its ITEMS are told as a, b, c, d; NONE behind the last one (a is one).",
+        sentence("Where a PATTERN is asked for, its ITEMS are told as a, b, c, d; NONE behind the last one (a is one).",
             RowFinderTerms::noneBehindTheLast);
         sentence("NONE behind the last one", RowFinderTerms::noneIsNotKind15);
         sentence("All memory is the finder's own.", RowFinderTerms::memoryIsItsOwn);
